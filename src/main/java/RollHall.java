@@ -416,9 +416,11 @@ public final class RollHall {
             case APPEAL:
                 undo();
                 break;
-            default:
+            case CLOSE:
                 over = true;
                 pile.clear();
+                break;
+            default:
                 break;
         }
     }

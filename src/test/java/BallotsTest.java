@@ -18,6 +18,7 @@ public final class BallotsTest {
         theRuleOfNameCounts();
         nothingNeededStillAsksForOneHalf();
         foreseenReleases();
+        theGreatestOfSeveralIsReleased();
         foreseenLeavesAllAsItWas();
         foreseenCountsBallots();
         foreseenBehindTheSession();
@@ -234,6 +235,20 @@ public final class BallotsTest {
         DUE.is("2 goes to 0", hall.foresee(), 0);
     }
 
+    private static void theGreatestOfSeveralIsReleased() {
+        RollHall hall = Due.hall();
+        Due.whole(hall, 0, 0);
+        Due.whole(hall, 0, 1, 0);
+        Due.whole(hall, 0, 2, 1);
+        // 2, 1 and 0 have as much each: 2 goes, so 1 has two of three.
+        DUE.is("needs, asked first", hall.needs(), 7);
+        DUE.is("1", hall.foresee(), 1);
+        hall.unlike(2);
+        hall.like(2, 2);
+        DUE.is("2 goes, then 1", hall.foresee(), 0);
+        DUE.is("eight", hall.needs(), 8);
+    }
+
     private static void foreseenLeavesAllAsItWas() {
         RollHall hall = Due.hall();
         Due.whole(hall, 0, 3);
@@ -291,6 +306,11 @@ public final class BallotsTest {
         hall.unlike(1);
         hall.like(1, 1);
         DUE.is("none without, one with", hall.turned(), 40);
+        RollHall half = Due.hall();
+        Due.seat(half, 1, 5, 0, 2);
+        DUE.is("a state of one half", half.turned(), 50);
+        half.out(0, 1);
+        DUE.is("a state without votes", half.turned(), RollHall.NONE);
     }
 
     private static void turnedLeavesAllAsItWas() {

@@ -3,11 +3,19 @@ public final class CountTest {
     private static final Due DUE = new Due();
 
     public static void main(String[] args) {
+        refusalsAreNumbers();
         nothingIsThere();
         countTellsAll();
         countRefuses();
         objectsAreApart();
         DUE.end();
+    }
+
+    private static void refusalsAreNumbers() {
+        DUE.is("NONE", RollHall.NONE, -1);
+        DUE.is("BAD", RollHall.BAD, -2);
+        DUE.is("STATE", RollHall.STATE, -3);
+        DUE.is("FULL", RollHall.FULL, -4);
     }
 
     private static void nothingIsThere() {

@@ -54,6 +54,11 @@ public final class MeetingsTest {
         DUE.is("the 25th", hall.meeting(0, -1, 7, 5), RollHall.FULL);
         DUE.is("a chain of 24", hall.good(23), 1);
         DUE.is("count", hall.count(0), 24);
+        RollHall spoilt = new RollHall();
+        for (int i = 0; i < 24; i++) {
+            spoilt.meeting(0, i - 1, i == 0 ? 6 : 7, 5);
+        }
+        DUE.is("a chain whose first is not good", spoilt.good(23), 0);
     }
 
     private static void goodNeedsNoticeAndRoll() {

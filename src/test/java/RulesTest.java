@@ -69,6 +69,8 @@ public final class RulesTest {
         fault("Close rank 9 need 1 of 2", 0);
         fault(" close rank 9 need 1 of 2", 0);
         fault("close  rank 9 need 1 of 2", 6);
+        fault("close rank : need 1 of 2", 11);
+        fault("close rank / need 1 of 2", 11);
         fault("close rank 12 need 1 of 2", 12);
         fault("close rank 1 need 10 of 2", 19);
         fault("close rank 1 need 1 of 0", 23);
@@ -185,6 +187,9 @@ public final class RulesTest {
         expectForce(hall, "one is open", 3);
         hall.vote(2);
         expectForce(hall, "one is taken", 2, 4);
+        hall.move(0, 0);
+        hall.vote(2);
+        expectForce(hall, "two are taken", 4);
     }
 
     private static void expectForce(RollHall hall, String when, int... keys) {
@@ -204,6 +209,16 @@ public final class RulesTest {
         for (int i = 0; i < want.length; i++) {
             DUE.is("after " + i, hall.force(3), want[i]);
             hall.ballot();
+        }
+        RollHall many = new RollHall();
+        Due.rule(many, "name rank 1 need 0 of 1 if ballots>117");
+        Due.rule(many, "seat rank 1 need 0 of 1 if ballots=12");
+        Due.rule(many, "close rank 1 need 0 of 1 if ballots=012");
+        for (int i = 0; i < 120; i++) {
+            DUE.is("ballots>117 after " + i, many.force(3), i > 117 ? 0 : -1);
+            DUE.is("ballots=12 after " + i, many.force(1), i == 12 ? 1 : -1);
+            DUE.is("ballots=012 after " + i, many.force(4), i == 12 ? 2 : -1);
+            many.ballot();
         }
     }
 }

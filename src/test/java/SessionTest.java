@@ -18,6 +18,7 @@ public final class SessionTest {
         appealsOfNothing();
         closeEndsAll();
         fortyRulingsAreKept();
+        keptRulingsStayWhole();
         DUE.end();
     }
 
@@ -203,6 +204,15 @@ public final class SessionTest {
         hall.move(1, 3);
         hall.vote(7);
         DUE.is("claim 1 again", hall.about(3, 4), 1);
+        RollHall first = Due.hall();
+        first.seat(4, 0, 0, 0);
+        Due.whole(first, 0);
+        DUE.is("number 0 tells seat 0", first.move(1, 0), 1);
+        first.vote(2);
+        DUE.is("seat 0, claim 1", first.about(0, 4), 1);
+        DUE.is("number 30 tells seat 0", first.move(1, 30), 1);
+        first.vote(3);
+        DUE.is("seat 0, claim 2", first.about(0, 4), 2);
     }
 
     private static void appealsUndoTheLatest() {
@@ -233,6 +243,7 @@ public final class SessionTest {
 
     private static void carry(RollHall hall, int key, int number) {
         DUE.is("move " + key + " " + number, hall.move(key, number), 1);
+        // The three WHOLE SEATS are more than half, whether the RIVAL one VOTES or not.
         DUE.is("vote on " + key + " " + number, hall.vote(7), 1);
     }
 
@@ -286,5 +297,28 @@ public final class SessionTest {
         carry(hall, 2, 0);
         DUE.is("the older ones stand", hall.count(6), 6);
         DUE.is("not taken", hall.taken(0), 0);
+    }
+
+    private static void keptRulingsStayWhole() {
+        RollHall hall = begun();
+        hall.plank();
+        int[][] moves = {{3, 4}, {0, 0}, {0, 1}, {1, 33}, {3, 2}, {0, 1}, {1, 3}};
+        int[][] before = new int[43][];
+        for (int i = 0; i < before.length; i++) {
+            before[i] = changeable(hall);
+            carry(hall, moves[i % 7][0], moves[i % 7][1]);
+        }
+        for (int i = before.length - 1; i >= before.length - 40; i--) {
+            carry(hall, 2, 0);
+            int[] now = changeable(hall);
+            for (int k = 0; k < now.length; k++) {
+                DUE.is("thing " + k + " as ahead of ruling " + i, now[k], before[i][k]);
+            }
+        }
+        DUE.is("none is left", hall.count(8), 0);
+    }
+
+    private static int[] changeable(RollHall hall) {
+        return new int[] {hall.count(6), hall.taken(0), hall.taken(1), hall.about(3, 4)};
     }
 }
