@@ -668,7 +668,7 @@ public final class RollHall {
 
         /** The byte to be read; none behind the end or a FAULT. */
         private int next() {
-            return goesOn() ? bytes[at] : NONE;
+            return !faulty && at < size ? bytes[at] : NONE;
         }
 
         private void readSign(char sign) {
