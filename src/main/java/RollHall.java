@@ -132,12 +132,12 @@ public final class RollHall {
         return tape.hasRoom(n) ? tape.append(w, n) : FULL;
     }
 
-    // A faulty TAPE asks for no room, so its FAULT is told even when there is none.
     public int rule() {
-        boolean read = rules.read(tape);
-        if (read && rules.isFull()) {
+        // A FAULT empties THE TAPE, so it is no REFUSAL: that there is no room is told ahead of it.
+        if (rules.isFull()) {
             return FULL;
         }
+        boolean read = rules.read(tape);
         tape.clear();
         return read ? rules.keep() : FAULT - tape.fault();
     }
@@ -730,24 +730,24 @@ public final class RollHall {
         }
     }
 
-    /** The RULES, with a row more than can be kept: the one that is being read. */
+    /** The RULES; the one that is being read stands behind them. */
     private static final class Rules {
-        static final int MOST = 10, ROWS = MOST + 1, TESTS = 2;
-        final int[] key = new int[ROWS];
-        final int[] rank = new int[ROWS];
-        final int[] need = new int[ROWS];
-        final int[] parts = new int[ROWS];
-        final int[] tests = new int[ROWS];
-        final int[] field = new int[ROWS * TESTS];
-        final int[] sign = new int[ROWS * TESTS];
-        final int[] number = new int[ROWS * TESTS];
+        static final int MOST = 10, TESTS = 2;
+        final int[] key = new int[MOST];
+        final int[] rank = new int[MOST];
+        final int[] need = new int[MOST];
+        final int[] parts = new int[MOST];
+        final int[] tests = new int[MOST];
+        final int[] field = new int[MOST * TESTS];
+        final int[] sign = new int[MOST * TESTS];
+        final int[] number = new int[MOST * TESTS];
         int size = 0;
 
         boolean isFull() {
             return size == MOST;
         }
 
-        /** Reads THE TAPE into the row behind the last RULE: whether it is one. */
+        /** Reads THE TAPE into the row behind the last RULE, while there is one: whether it is a RULE. */
         boolean read(Tape tape) {
             tape.rewind();
             key[size] = tape.readWord(KEY_NAMES);

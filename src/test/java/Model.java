@@ -168,6 +168,7 @@ final class Model {
     }
 
     int rule() {
+        if (rules.size() >= 10) return FULL;
         Matcher m = RULE.matcher(tape);
         if (!m.matches()) {
             int place = 0;
@@ -175,7 +176,6 @@ final class Model {
             tape = "";
             return -10 - place;
         }
-        if (rules.size() >= 10) return FULL;
         List<String[]> tests = new ArrayList<>();
         for (int g = 5; g <= 8; g += 3) {
             if (m.group(g) != null) tests.add(new String[] {m.group(g), m.group(g + 1), m.group(g + 2)});

@@ -11,6 +11,7 @@ public final class RulesTest {
         onlyAsciiWillDo();
         aReadTapeIsEmpty();
         rulesFillUp();
+        fullHasNoEyeForTheTape();
         forceRefuses();
         theGreatestNumberCounts();
         testsLookAtNow();
@@ -132,8 +133,25 @@ public final class RulesTest {
         DUE.is("none came", hall.count(2), 10);
         DUE.is("no seat rule", hall.force(1), RollHall.NONE);
         hall.feed('x', 1);
-        DUE.is("the fault ahead of full", hall.rule(), -10 - 46);
+        DUE.is("full ahead of the fault", hall.rule(), RollHall.FULL);
+        DUE.is("the faulty tape is as it was", hall.count(12), 47);
+        DUE.is("bytes come behind it", hall.feed('x', 1), 48);
         DUE.is("the rows are whole", hall.force(0), RollHall.NONE);
+    }
+
+    private static void fullHasNoEyeForTheTape() {
+        RollHall hall = new RollHall();
+        for (int i = 0; i < 10; i++) {
+            Due.rule(hall, "plank rank " + i + " need 0 of 1");
+        }
+        DUE.is("an empty tape", hall.rule(), RollHall.FULL);
+        DUE.is("it stays empty", hall.count(12), 0);
+        DUE.is("the last rule is whole", hall.force(0), 9);
+        DUE.is("a tape that ends too early", Due.rule(hall, "plank rank"), RollHall.FULL);
+        DUE.is("it has its bytes", hall.count(12), 10);
+        DUE.is("the rest comes behind", Due.rule(hall, " 1 need 0 of 1"), RollHall.FULL);
+        DUE.is("all its bytes", hall.count(12), 24);
+        DUE.is("ten", hall.count(2), 10);
     }
 
     private static void forceRefuses() {
