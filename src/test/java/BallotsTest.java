@@ -134,11 +134,12 @@ public final class BallotsTest {
 
     private static void toldStatesVoteAsOne() {
         RollHall hall = Due.hall();
+        hall.meeting(0, RollHall.NONE, 7, 5);
         Due.whole(hall, 2, 1);
         Due.seat(hall, 1, 2, 0);
         Due.seat(hall, 2, 2, 0, 1);
         Due.seat(hall, 3, 2, 2001);
-        hall.seat(4, 2, 0, 0);
+        hall.seat(4, 2, 0, 1);
         Due.whole(hall, 3, 1);
         hall.release(6, 1);
         hall.bind(2, 6);

@@ -1,6 +1,6 @@
 import java.util.Random;
 
-/** Mixed runs of 512 calls, the class beside the Model: all answers are the same. */
+/** Mixed runs of just below 512 calls, the class beside the Model: all answers are the same. */
 public final class ModelTest {
     private static final Due DUE = new Due();
     private static final String[] KEYS = {"plank", "seat", "appeal", "name", "close"};
@@ -10,6 +10,7 @@ public final class ModelTest {
     private final RollHall hall = new RollHall();
     private final Model model = new Model();
     private final int[] taste;
+    private int calls = 0;
 
     private ModelTest(long seed) {
         dice = new Random(seed);
@@ -30,9 +31,10 @@ public final class ModelTest {
     }
 
     private void run(int seed) {
-        for (int i = 0; i < 512; i++) {
-            String where = "run " + seed + ", step " + i + ": ";
-            if (i < 60 && dice.nextInt(2) == 0) {
+        // A text takes 9 calls at most, and the counts at the end 13.
+        while (calls <= 512 - 9 - 13) {
+            String where = "run " + seed + ", call " + calls + ": ";
+            if (calls < 80 && dice.nextInt(2) == 0) {
                 build(where);
             } else {
                 call(where, pick());
@@ -113,15 +115,25 @@ public final class ModelTest {
                 w = w << 8 | text.charAt(at + i);
             }
             DUE.is(where + "feed", hall.feed(w, n), model.feed(w, n));
+            calls++;
         }
         DUE.is(where + "rule of " + text, hall.rule(), model.rule());
     }
 
+    /** Of numbers below 0 only one is dealt that can be taken apart in one way alone. */
     private int boundX() {
-        return dice.nextInt(6) == 0 ? n(2200) : 100 * dice.nextInt(8) + dice.nextInt(8);
+        int x = dice.nextInt(6) == 0 ? n(2200) : 100 * dice.nextInt(8) + dice.nextInt(8);
+        return x < 0 ? -100 : x;
+    }
+
+    /** The document says "another one", and not what a claim by the same MEETING is. */
+    private int otherMeeting(int m) {
+        int other = n(8);
+        return other == m ? m + 1 : other;
     }
 
     private void call(String where, int which) {
+        calls++;
         if (which < 10) {
             callSeats(where, which);
         } else if (which < 22) {
@@ -149,7 +161,7 @@ public final class ModelTest {
             case 2: DUE.is(where + "good", hall.good(b), model.good(b)); break;
             case 3: {
                 int kind = n(5);
-                int x = kind == 3 ? boundX() : kind < 3 ? n(100) / 100 : n(kind == 4 ? 8 : 20);
+                int x = kind == 3 ? boundX() : kind == 4 ? otherMeeting(m) : kind < 3 ? n(100) / 100 : n(20);
                 int state = dice.nextInt(2) == 0 ? n(2) : a;
                 DUE.is(where + "seat " + kind + " " + x, hall.seat(kind, state, m, x), model.seat(kind, state, m, x));
                 break;
@@ -177,7 +189,7 @@ public final class ModelTest {
             case 12: DUE.is(where + "force", hall.force(b), model.force(b)); break;
             case 13: case 14: {
                 int key = dice.nextInt(25) == 0 ? 4 : b == 4 ? 2 : b;
-                int number = key == 1 ? n(59) : key == 2 || key == 4 ? n(60) / 60 : a;
+                int number = key == 1 ? Math.max(n(59), 0) : key == 2 || key == 4 ? n(60) / 60 : a;
                 DUE.is(where + "move " + key + " " + number, hall.move(key, number), model.move(key, number));
                 break;
             }

@@ -25,17 +25,18 @@ public final class SessionTest {
     /** A hall with three WHOLE SEATS, a RIVAL one (3) and a PLANK. */
     private static RollHall begun() {
         RollHall hall = Due.hall();
+        hall.meeting(0, RollHall.NONE, 7, 5);
         Due.whole(hall, 0);
         Due.whole(hall, 1);
         Due.whole(hall, 2);
-        hall.seat(4, 0, 0, 0);
+        hall.seat(4, 0, 0, 1);
         hall.plank();
         return hall;
     }
 
     private static void moveAsksForItsThing() {
         RollHall hall = begun();
-        int[][] none = {{-1, 0}, {5, 0}, {0, -1}, {0, 1}, {1, 0}, {1, 2}, {1, 4}, {1, 30}, {1, 34}, {1, -27}, {1, -1},
+        int[][] none = {{-1, 0}, {5, 0}, {0, -1}, {0, 1}, {1, 0}, {1, 2}, {1, 4}, {1, 30}, {1, 34}, {1, -1},
             {2, 1}, {2, -1}, {3, -1}, {3, 8}, {4, 1}, {4, -1}, {1, Integer.MIN_VALUE}};
         for (int[] m : none) {
             DUE.is("move " + m[0] + " " + m[1], hall.move(m[0], m[1]), RollHall.NONE);
@@ -205,7 +206,8 @@ public final class SessionTest {
         hall.vote(7);
         DUE.is("claim 1 again", hall.about(3, 4), 1);
         RollHall first = Due.hall();
-        first.seat(4, 0, 0, 0);
+        first.meeting(0, RollHall.NONE, 7, 5);
+        first.seat(4, 0, 0, 1);
         Due.whole(first, 0);
         DUE.is("number 0 tells seat 0", first.move(1, 0), 1);
         first.vote(2);
