@@ -695,6 +695,17 @@ public final class BallotEdgesTest {
         Edges.due("told as before", hall.bind(3, -1), 1);
     }
 
+    private static void aStateTurnsWithThoseOfItThatVote() {
+        RollHall hall = hall();
+        Due.whole(hall, 5, 3);
+        Due.whole(hall, 5, 3);
+        hall.out(1, 1);
+        Edges.due("the first votes", hall.turned(), 50);
+        hall.out(0, 1);
+        hall.out(1, 0);
+        Edges.due("the second votes", hall.turned(), 50);
+    }
+
     // turned: "NONE: none"
     private static void nothingTurnsIt() {
         Edges.due("no seat", new RollHall().turned(), NONE);

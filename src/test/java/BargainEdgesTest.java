@@ -194,6 +194,15 @@ public final class BargainEdgesTest {
         Edges.due("stable not", hall.bargain(3, 1), 0);
     }
 
+    private static void anOfferThatIsBrokenWinsAllTheSame() {
+        RollHall hall = withPairs();
+        give(hall, 1, 1, 1);
+        give(hall, 1, 2, 1);
+        Edges.due("broken", hall.breaks(0), 1);
+        Edges.due("wins", hall.bargain(0, 0), 1);
+        Edges.due("not stable", hall.bargain(0, 1), 0);
+    }
+
     // "and no other one that WINS"
     private static void anOfferThatDoesNotWinBreaksNothing() {
         RollHall hall = withPairs();
@@ -306,6 +315,23 @@ public final class BargainEdgesTest {
         hall.gets(4, 0, 0);
         hall.gets(4, 1, 0);
         Edges.due("a lesser number breaks, too", hall.breaks(4), 0);
+    }
+
+    private static void allTwelveAreLookedAt() {
+        RollHall hall = new RollHall();
+        hall.group(5, 1);
+        for (int i = 0; i < 12; i++) {
+            hall.offer(32);
+        }
+        for (int offer = 0; offer < 12; offer++) {
+            Edges.due("stable " + offer, hall.bargain(offer, 1), 1);
+            Edges.due("breaks " + offer, hall.breaks(offer), NONE);
+        }
+        hall.gets(11, 5, 1);
+        for (int offer = 0; offer < 12; offer++) {
+            Edges.due("stable but for the last " + offer, hall.bargain(offer, 1), offer == 11 ? 1 : 0);
+            Edges.due("by the last " + offer, hall.breaks(offer), offer == 11 ? NONE : 11);
+        }
     }
 
     // breaks: "one that WINS but is not STABLE. NONE: none, too"

@@ -120,10 +120,10 @@ public final class ModelTest {
         DUE.is(where + "rule of " + text, hall.rule(), model.rule());
     }
 
-    /** Of numbers below 0 only one is dealt that can be taken apart in one way alone. */
+    /** The document does not say how a number below 0 is taken apart: none is dealt. */
     private int boundX() {
         int x = dice.nextInt(6) == 0 ? n(2200) : 100 * dice.nextInt(8) + dice.nextInt(8);
-        return x < 0 ? -100 : x;
+        return Math.max(x, 0);
     }
 
     /** The document says "another one", and not what a claim by the same MEETING is. */

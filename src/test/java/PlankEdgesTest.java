@@ -112,6 +112,46 @@ public final class PlankEdgesTest {
         platformIs(hall, "full again", 77, 1, 2, 3, 4, 5, 6, 7, 8, 9, 10, 11, 500);
     }
 
+    /** In each of eight full PLANKS a WORD is struck and mended: the others keep theirs. */
+    private static void eachPlankHasItsOwnWords() {
+        for (int p = 0; p < 8; p++) {
+            for (int i = 0; i < 12; i += 11) {
+                RollHall hall = eightFull();
+                Edges.due("strike " + i + " of plank " + p, hall.strike(p, i, 1), 11);
+                Edges.due("amend " + i + " of plank " + p, hall.amend(p, i, 999), 12);
+                int at = 12 * p + i;
+                for (int k = 0; k < 96; k++) {
+                    Edges.due("plank " + p + ", word " + k, hall.platform(k), k == at ? 999 : k);
+                }
+            }
+        }
+    }
+
+    private static void theMiddleOfAFullPlankIsStruck() {
+        for (int p = 0; p < 8; p++) {
+            RollHall hall = eightFull();
+            Edges.due("strike of plank " + p, hall.strike(p, 5, 4), 8);
+            for (int k = 0; k < 92; k++) {
+                Edges.due("plank " + p + ", word " + k, hall.platform(k), k < 12 * p + 5 ? k : k + 4);
+            }
+            Edges.due("behind", hall.platform(92), NONE);
+        }
+    }
+
+    /** Eight PLANKS of twelve WORDS each, all TAKEN: 96 WORDS, each as its place. */
+    private static RollHall eightFull() {
+        RollHall hall = new RollHall();
+        Due.rule(hall, "plank rank 0 need 0 of 1");
+        for (int p = 0; p < 8; p++) {
+            hall.plank();
+            take(hall, p);
+            for (int i = 0; i < 12; i++) {
+                hall.amend(p, i, 12 * p + i);
+            }
+        }
+        return hall;
+    }
+
     // amend: "ahead of its i-th"
     private static void aWordComesAheadOfTheIth() {
         for (int i = 0; i < 3; i++) {
@@ -230,18 +270,10 @@ public final class PlankEdgesTest {
     }
 
     private static void thePlatformAtItsLongest() {
-        RollHall hall = new RollHall();
-        Due.rule(hall, "plank rank 0 need 0 of 1");
-        for (int p = 0; p < 8; p++) {
-            hall.plank();
-            take(hall, p);
-            for (int i = 0; i < 12; i++) {
-                hall.amend(p, i, 100 * p + i);
-            }
-        }
+        RollHall hall = eightFull();
         Edges.due("how many", hall.count(11), 96);
         for (int i = 0; i < 96; i++) {
-            Edges.due("word " + i, hall.platform(i), 100 * (i / 12) + i % 12);
+            Edges.due("word " + i, hall.platform(i), i);
         }
         Edges.due("behind", hall.platform(96), NONE);
     }

@@ -139,7 +139,7 @@ public final class SeatEdgesTest {
         Edges.due("0 ballots", hall.seat(BOUND, 0, 0, 7), 0);
         Edges.due("20 ballots, name 0", hall.seat(BOUND, 0, 0, 2000), 1);
         Edges.due("20 ballots, name 7", hall.seat(BOUND, 0, 0, 2007), 2);
-        for (int x : new int[] {2100, 2107, 9900, 10000, -100}) {
+        for (int x : new int[] {2100, 2107, 9900, 10000}) {
             Edges.refused("x " + x, SeatEdgesTest::kinds, h -> h.seat(BOUND, 0, 0, x), BAD);
         }
         Edges.refused("name 8 ahead of 21 ballots", SeatEdgesTest::kinds, h -> h.seat(BOUND, 0, 0, 2108), NONE);
@@ -147,7 +147,7 @@ public final class SeatEdgesTest {
 
     /** How a number below 0 is taken apart the document leaves open: one of both refusals is due. */
     private static void boundSeatsHaveNoXBelowZero() {
-        for (int x : new int[] {-1, -92, -99, -101, LEAST}) {
+        for (int x : new int[] {-1, -92, -99, -100, -101, LEAST}) {
             RollHall hall = withKinds();
             int answer = hall.seat(BOUND, 0, 0, x);
             Edges.due("x " + x + " is refused", answer == NONE || answer == BAD ? 1 : 0, 1);

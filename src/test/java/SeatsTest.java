@@ -41,7 +41,6 @@ public final class SeatsTest {
         DUE.is("name 99", hall.seat(3, 0, 0, 99), RollHall.NONE);
         DUE.is("name 8 ahead of ballots 21", hall.seat(3, 0, 0, 2108), RollHall.NONE);
         DUE.is("ballots 21", hall.seat(3, 0, 0, 2107), RollHall.BAD);
-        DUE.is("ballots -1", hall.seat(3, 0, 0, -100), RollHall.BAD);
         DUE.is("least and greatest", hall.seat(3, 0, 0, 0), 0);
         DUE.is("20 ballots, name 7", hall.seat(3, 0, 0, 2007), 1);
     }

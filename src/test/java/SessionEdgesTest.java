@@ -339,6 +339,18 @@ public final class SessionEdgesTest {
         for (int number : new int[] {0, 2, 4, 29, 30, 32, 34, 59, -1, LEAST}) {
             Edges.refused("seat " + number, SessionEdgesTest::begin, h -> h.move(SEAT, number), NONE);
         }
+        Edges.Steps kinds = h -> {
+            begin(h);
+            h.seat(1, 0, 0, 0);
+            h.seat(2, 0, 0, 0);
+            h.seat(3, 0, 0, 0);
+            h.seat(5, 0, 0, 3);
+        };
+        for (int number = 4; number <= 7; number++) {
+            int s = number;
+            Edges.refused("of another kind, seat " + s, kinds, h -> h.move(SEAT, s), NONE);
+            Edges.refused("of another kind, claim 2 of seat " + s, kinds, h -> h.move(SEAT, 30 + s), NONE);
+        }
         Edges.refused("no seat at all", h -> { }, h -> h.move(SEAT, 0), NONE);
         Edges.refused("no seat at all, claim 2", h -> { }, h -> h.move(SEAT, 30), NONE);
         Edges.due("claim 1", begun().move(SEAT, 3), 1);
